@@ -244,6 +244,12 @@ public final class PromiseTest {
         fault("drinks 1and 2 or;", 16);
         fault("drinks not;", 10);
         fault("drinks 12day;", 9);
+        fault("brinks 1;", 0);
+        fault("drinkt 1;", 0);
+        fault("drinks dayz;", 7);
+        fault("drinks aday;", 7);
+        fault("drinks 1;worth 2;breaks 3;\0", 26);
+        fault("drinks \0 1;", 7);
         // The bytes above 127 begin no token either.
         ThreeEmpties x = new ThreeEmpties();
         write(x, "drinks ");
@@ -707,6 +713,7 @@ public final class PromiseTest {
         due("61", x.bought(61, 61), 0);
         due("0", x.bought(0, 0), 1);
         due("other empties", x.bought(7, 6), 0);
+        due("999 is a number", x.bought(999, 999), 0);
         x.rate(0, 13, 0);
         x.set(0, 50);
         due("nine", x.bought(13, 1), 1 << 9);
@@ -732,6 +739,7 @@ public final class PromiseTest {
         due("one and two", x.friends(1, 2), 1);
         due("one and one", x.friends(1, 1), 0);
         due("one and nobody", x.friends(1, 0), 0);
+        due("nobody and one", x.friends(0, 1), 0);
         x.set(0, 40);
         x.set(5, 7);
         due("as if these were all", x.friends(2, 2), 1);
@@ -930,6 +938,10 @@ public final class PromiseTest {
         due("behind", x.behind(2, 0), 1);
         due("none", x.film(3, 0), 0);
         due("an empty row", x.judge(3), -1);
+        x.set(0, 0);
+        due("no move to film", x.film(3, 5), 0);
+        due("an empty row", x.cell(3, 0, 0), -12);
+        due("an empty row", x.judge(3), -1);
         x.set(0, 999);
         due("40", x.film(3, 40), 40);
         due("40 long", x.cell(3, 39, 70000), 1);
@@ -954,6 +966,9 @@ public final class PromiseTest {
         due("three", x.laws(3), 2);
         due("never ending", x.laws(101), 4);
         due("the law stays", x.count(9), 0);
+        x.set(5, 999);
+        due("999", x.laws(999), 15);
+        x.set(5, 0);
         stands(x, 3, 0, 0, 0, 0, 0, 0);
     }
 
@@ -979,6 +994,10 @@ public final class PromiseTest {
         z.rate(0, 12, 0);
         z.set(0, 2);
         due("the first breaks", z.drawn(0, 200), 2);
+        ThreeEmpties none = under("drinks drunk=1;worth 0;breaks 100*(drunk=0);");
+        none.rate(0, 11, 0);
+        none.set(0, 2);
+        due("there is no empty to break", none.drawn(0, 200), 3);
         due("breaks by drunk", brokenWhile("drunk"), 1);
         due("told ahead of the move", brokenWhile("100*(drunk=0)"), 0);
         due("told ahead of the move", brokenWhile("100*(drunk=1)"), 1);
@@ -1016,6 +1035,7 @@ public final class PromiseTest {
         long below = x.mean(99970, 30, 60, 1);
         due("the same mean", above * 30, sum * below);
         due("seed alone is held to its bounds", x.mean(99999, 30, 60, 0) > 0 ? 1 : 0, 1);
+        due("no moves", x.mean(0, 30, 0, 1), 1);
         due("one seed", x.mean(7, 1, 60, 0), 12);
         due("one seed", x.mean(7, 1, 60, 1), 1);
         stands(x, 9, 0, 0, 0, 0, 0, 0);

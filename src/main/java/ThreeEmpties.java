@@ -352,27 +352,32 @@ public final class ThreeEmpties {
         return thought;
     }
 
-    /** Tries all rows that go on from the one that led to ahead[depth]; its moves are the digits of row. */
+    /** Tries the row that led to ahead[depth], and all that go on so; its moves are the digits of row. */
     private void tryRows(int depth, int n, int worth, int row) {
         if (worth > mostWorth) {
             mostWorth = worth;
             mostWorthRow = row;
         }
-        if (depth < 0 || depth >= n || depth + 1 >= ahead.length) {
+        if (depth >= n) {
+            return;
+        }
+        // An exchange at a row's end adds no worth, and the row without it stands ahead.
+        int last = depth + 1 == n ? 0 : rates.size;
+        for (int m = 0; m <= last; m++) {
+            tryMove(m, depth, n, worth, row);
+        }
+    }
+
+    private void tryMove(int m, int depth, int n, int worth, int row) {
+        if (depth < 0 || depth + 1 >= ahead.length || !canMake(ahead[depth], m)) {
             return;
         }
         int[] s = ahead[depth];
         int[] then = ahead[depth + 1];
-        // An exchange at a row's end adds no worth, and the row without it stands ahead.
-        int last = depth + 1 == n ? 0 : rates.size;
-        for (int m = 0; m <= last; m++) {
-            if (canMake(s, m)) {
-                int more = m == 0 ? says(law, WORTH, s) : 0;
-                System.arraycopy(s, 0, then, 0, PLACES);
-                make(then, m, law);
-                tryRows(depth + 1, n, worth + more, row * 10 + m + 1);
-            }
-        }
+        int more = m == 0 ? says(law, WORTH, s) : 0;
+        System.arraycopy(s, 0, then, 0, PLACES);
+        make(then, m, law);
+        tryRows(depth + 1, n, worth + more, row * 10 + m + 1);
     }
 
     // ---- how many to buy

@@ -1,4 +1,4 @@
-/** What EdgeTest and RefusalTest share: counting wrong answers, feeding texts, telling sheets. */
+/** What several tests share: counting wrong answers, feeding texts, telling sheets. */
 final class Check {
     static final int FAR_BELOW = Integer.MIN_VALUE;
     static final int FAR_ABOVE = Integer.MAX_VALUE;
